@@ -1,0 +1,625 @@
+/** Each promise of the document by runs of calls whose answers were worked out by hand. */
+public final class PromisesTest {
+    private static final int OPEN = 0;
+    private static final int CLOSE = 1;
+    private static final int READ = 2;
+    private static final int WRITE = 3;
+    private static final int ADD = 4;
+    private static final int SWAP = 5;
+    private static final int MOVE = 6;
+
+    private static final Class<IllegalArgumentException> ARGUMENT = IllegalArgumentException.class;
+    private static final Class<IllegalStateException> STATE = IllegalStateException.class;
+    private static final Class<UnsupportedOperationException> UNSUPPORTED = UnsupportedOperationException.class;
+    private static final Class<IndexOutOfBoundsException> INDEX = IndexOutOfBoundsException.class;
+    private static final Class<java.util.NoSuchElementException> ELEMENT = java.util.NoSuchElementException.class;
+
+    private PromisesTest() {
+    }
+
+    public static void main(String[] args) {
+        newObject();
+        addNumbersAndArguments();
+        addRefusals();
+        addValidity();
+        addRoom();
+        clear();
+        make();
+        makeLeavesOut();
+        flaws();
+        runWithoutFlaws();
+        runSplitAdd();
+        runSplitSwap();
+        runSplitMove();
+        runLateWrite();
+        runPrefixIsWhole();
+        runArgumentsAsTheyWere();
+        fails();
+        shrink();
+        shrinkRefusals();
+        shrinkPromotes();
+        command();
+        eventAndItsState();
+        orderAndItsState();
+        cell();
+        countAndTally();
+        Check.end();
+    }
+
+    /** A schedule from a text of branches: the first letter is that of moment 0. */
+    private static int schedule(String branches) {
+        int bits = 0;
+        for (int m = 0; m < branches.length(); m++) {
+            if (branches.charAt(m) == '2') {
+                bits |= 1 << m;
+            }
+        }
+        return bits;
+    }
+
+    private static HistoryJudge twoAdds() {
+        HistoryJudge x = new HistoryJudge();
+        x.add(0, OPEN, 0, 5);
+        x.add(1, ADD, 0, 3);
+        x.add(2, ADD, 0, 1);
+        return x;
+    }
+
+    private static void commandIs(HistoryJudge x, int i, int branch, int kind, int cell, int argument) {
+        Check.is("command(" + i + ", 0)", x.command(i, 0), branch);
+        Check.is("command(" + i + ", 1)", x.command(i, 1), kind);
+        Check.is("command(" + i + ", 2)", x.command(i, 2), cell);
+        Check.is("command(" + i + ", 3)", x.command(i, 3), argument);
+    }
+
+    private static void orderIs(HistoryJudge x, int... due) {
+        for (int k = 0; k < due.length; k++) {
+            Check.is("order(" + k + ")", x.order(k), due[k]);
+        }
+        Check.fails("order behind the last", ELEMENT, () -> x.order(due.length));
+    }
+
+    private static void newObject() {
+        HistoryJudge x = new HistoryJudge();
+        Check.is("NONE", HistoryJudge.NONE, -1);
+        for (int what = 0; what < 4; what++) {
+            Check.is("new count", x.count(what), 0);
+        }
+        for (int kind = 0; kind < 7; kind++) {
+            Check.is("new tally", x.tally(kind), 0);
+        }
+        Check.fails("new command", INDEX, () -> x.command(0, 0));
+        Check.fails("new event", INDEX, () -> x.event(0, 0));
+        Check.fails("new order", STATE, () -> x.order(0));
+        Check.fails("new cell", STATE, () -> x.cell(0));
+        Check.is("new flaws", x.flaws(0), 0);
+        Check.is("new clear", x.clear(), 0);
+        Check.is("run of nothing", x.run(2147483647), true);
+        Check.is("cell of nothing", x.cell(2), 0);
+        Check.fails("order of nothing", ELEMENT, () -> x.order(0));
+        Check.is("fails of nothing", x.fails(0, 50), HistoryJudge.NONE);
+    }
+
+    private static void addNumbersAndArguments() {
+        HistoryJudge x = new HistoryJudge();
+        Check.is("add prefix", x.add(0, OPEN, 0, 7), 0);
+        Check.is("add branch 2", x.add(2, READ, 0, 8), 1);
+        Check.is("add branch 2", x.add(2, WRITE, 0, 9), 2);
+        Check.is("add branch 1", x.add(1, ADD, 0, 8), 1);
+        commandIs(x, 2, 2, READ, 0, 8);
+        commandIs(x, 3, 2, WRITE, 0, 10);
+        Check.is("add branch 1", x.add(1, SWAP, 0, 9), 2);
+        commandIs(x, 4, 2, WRITE, 0, 11);
+        Check.is("add prefix", x.add(0, READ, 0, 8), 1);
+        commandIs(x, 0, 0, OPEN, 0, 7);
+        commandIs(x, 1, 0, READ, 0, 8);
+        commandIs(x, 2, 1, ADD, 0, 8);
+        commandIs(x, 3, 1, SWAP, 0, 10);
+        commandIs(x, 4, 2, READ, 0, 8);
+        commandIs(x, 5, 2, WRITE, 0, 12);
+        Check.is("count(0)", x.count(0), 6);
+    }
+
+    private static void addRefusals() {
+        HistoryJudge x = new HistoryJudge();
+        x.add(0, OPEN, 0, 7);
+        x.add(1, READ, 0, 0);
+        x.add(2, READ, 0, 0);
+        x.run(0);
+        Check.fails("add branch -1", ARGUMENT, () -> x.add(-1, READ, 0, 0));
+        Check.fails("add branch 3", ARGUMENT, () -> x.add(3, READ, 0, 0));
+        Check.fails("add kind -1", ARGUMENT, () -> x.add(0, -1, 0, 0));
+        Check.fails("add kind 7", ARGUMENT, () -> x.add(0, 7, 0, 0));
+        Check.fails("add cell -1", ARGUMENT, () -> x.add(0, READ, -1, 0));
+        Check.fails("add cell 3", ARGUMENT, () -> x.add(0, READ, 3, 0));
+        Check.fails("add argument -1", ARGUMENT, () -> x.add(0, READ, 0, -1));
+        Check.fails("add argument low", ARGUMENT, () -> x.add(0, READ, 0, Integer.MIN_VALUE));
+        Check.fails("add argument high", ARGUMENT, () -> x.add(0, READ, 0, Integer.MAX_VALUE));
+        Check.fails("prefix stands for itself", ARGUMENT, () -> x.add(0, READ, 0, 9));
+        Check.fails("1 stands for 2", ARGUMENT, () -> x.add(1, READ, 0, 10));
+        Check.fails("2 stands for 1", ARGUMENT, () -> x.add(2, READ, 0, 9));
+        Check.fails("2 stands for itself", ARGUMENT, () -> x.add(2, READ, 0, 11));
+        Check.fails("argument goes before validity", ARGUMENT, () -> x.add(0, OPEN, 0, 8 + 7));
+        Check.is("count(0) behind refusals", x.count(0), 3);
+        Check.is("event behind refusals", x.event(1, 0), 7);
+        Check.is("the last that may be", x.add(2, READ, 0, 10), 3);
+    }
+
+    private static void addValidity() {
+        for (int kind = CLOSE; kind <= MOVE; kind++) {
+            int k = kind;
+            HistoryJudge x = new HistoryJudge();
+            Check.fails("closed cell, kind " + k, UNSUPPORTED, () -> x.add(0, k, 0, 0));
+            x.add(0, OPEN, 1, 0);
+            Check.fails("other cell, kind " + k, UNSUPPORTED, () -> x.add(0, k, 0, 0));
+            x.add(0, OPEN, 0, 0);
+            Check.is("open cell, kind " + k, x.add(0, k, 0, 0), 2);
+        }
+        HistoryJudge x = new HistoryJudge();
+        x.add(0, OPEN, 2, 0);
+        Check.fails("open twice", UNSUPPORTED, () -> x.add(0, OPEN, 2, 0));
+        Check.fails("move without its source", UNSUPPORTED, () -> x.add(0, MOVE, 2, 0));
+        x.add(1, OPEN, 0, 0);
+        Check.fails("cell may not be open yet", UNSUPPORTED, () -> x.add(2, READ, 0, 0));
+        Check.fails("cell may be open", UNSUPPORTED, () -> x.add(2, OPEN, 0, 0));
+        Check.fails("prefix opens what 1 opens", UNSUPPORTED, () -> x.add(0, OPEN, 0, 0));
+        Check.is("1 goes on", x.add(1, MOVE, 2, 0), 2);
+        Check.fails("source may be closed", UNSUPPORTED, () -> x.add(2, CLOSE, 2, 0));
+        Check.fails("prefix closes what 1 uses", UNSUPPORTED, () -> x.add(0, CLOSE, 2, 0));
+        x.run(0);
+        Check.fails("again", UNSUPPORTED, () -> x.add(0, CLOSE, 2, 0));
+        Check.is("event behind a refusal", x.event(1, 2), 0);
+        Check.is("count(0) behind refusals", x.count(0), 3);
+    }
+
+    private static void addRoom() {
+        HistoryJudge x = new HistoryJudge();
+        x.add(0, OPEN, 0, 0);
+        for (int n = 1; n < 6; n++) {
+            Check.is("prefix " + n, x.add(0, READ, 0, 0), n);
+        }
+        Check.fails("prefix is full", STATE, () -> x.add(0, READ, 0, 0));
+        Check.fails("full goes before validity", STATE, () -> x.add(0, OPEN, 0, 0));
+        Check.fails("argument goes before full", ARGUMENT, () -> x.add(0, READ, 0, 14));
+        for (int n = 0; n < 4; n++) {
+            Check.is("branch 2 " + n, x.add(2, READ, 0, 0), 6 + n);
+        }
+        Check.fails("branch 2 is full", STATE, () -> x.add(2, READ, 0, 0));
+        for (int n = 0; n < 4; n++) {
+            Check.is("branch 1 " + n, x.add(1, READ, 0, 0), 6 + n);
+        }
+        Check.fails("branch 1 is full", STATE, () -> x.add(1, READ, 0, 0));
+        Check.is("all full", x.count(0), 14);
+    }
+
+    private static void clear() {
+        HistoryJudge x = twoAdds();
+        x.flaws(1);
+        x.run(0);
+        Check.is("clear", x.clear(), 3);
+        Check.is("clear again", x.clear(), 0);
+        Check.is("count(0)", x.count(0), 0);
+        Check.is("count(1) stays", x.count(1), 1);
+        Check.is("tally stays", x.tally(ADD), 2);
+        Check.is("flaws stay", x.flaws(1), 1);
+        Check.fails("order behind clear", STATE, () -> x.order(0));
+        Check.is("add behind clear", x.add(2, OPEN, 0, 0), 0);
+    }
+
+    private static void make() {
+        HistoryJudge x = new HistoryJudge();
+        Check.is("make(7, 6, 4, 4)", x.make(7L, 6, 4, 4), 14);
+        x.run(0);
+        Check.fails("p -1", ARGUMENT, () -> x.make(1L, -1, 0, 0));
+        Check.fails("p 7", ARGUMENT, () -> x.make(1L, 7, 0, 0));
+        Check.fails("a -1", ARGUMENT, () -> x.make(1L, 0, -1, 0));
+        Check.fails("a 5", ARGUMENT, () -> x.make(1L, 0, 5, 0));
+        Check.fails("b -1", ARGUMENT, () -> x.make(1L, 0, 0, -1));
+        Check.fails("b 5", ARGUMENT, () -> x.make(1L, 0, 0, 5));
+        Check.is("refusals change nothing", x.count(0), 14);
+        Check.is("event behind refusals", x.event(0, 2), HistoryJudge.NONE);
+        x.flaws(9);
+        Check.is("make of nothing", x.make(1L, 0, 0, 0), 0);
+        Check.is("count(0)", x.count(0), 0);
+        Check.fails("order behind make", STATE, () -> x.order(0));
+        Check.is("flaws stay", x.flaws(9), 9);
+        Check.is("runs stay", x.count(1), 1);
+    }
+
+    /** Tries draw by draw what make must do, by the document's words and by add alone. */
+    private static void makeLeavesOut() {
+        boolean leftOut = false;
+        for (long seed = -40; seed < 40; seed++) {
+            HistoryJudge x = new HistoryJudge();
+            HistoryJudge y = new HistoryJudge();
+            int made = x.make(seed, 4, 4, 4);
+            addDrawn(y, seed, new int[] {4, 4, 4});
+            Check.is("make by seed " + seed, made, y.count(0));
+            for (int i = 0; i < made && i < y.count(0); i++) {
+                commandIs(x, i, y.command(i, 0), y.command(i, 1), y.command(i, 2), y.command(i, 3));
+            }
+            leftOut |= made < 12;
+        }
+        Check.is("a command was left out", leftOut, true);
+    }
+
+    private static void addDrawn(HistoryJudge y, long seed, int[] wanted) {
+        long[] state = {seed};
+        for (int branch = 0; branch < 3; branch++) {
+            for (int n = 0; n < wanted[branch]; n++) {
+                int tries = 0;
+                while (tries < 20 && !addOneDrawn(y, state, branch)) {
+                    tries++;
+                }
+            }
+        }
+    }
+
+    private static boolean addOneDrawn(HistoryJudge y, long[] state, int branch) {
+        int kind = draw(state, 7);
+        int cell = draw(state, 3);
+        int choice = draw(state, 4);
+        java.util.List<Integer> known = new java.util.ArrayList<>();
+        for (int i = 0; i < y.count(0); i++) {
+            if (y.command(i, 0) == 0 || y.command(i, 0) == branch) {
+                known.add(i);
+            }
+        }
+        int argument;
+        if (choice == 0 && !known.isEmpty()) {
+            argument = 8 + known.get(draw(state, known.size()));
+        } else {
+            argument = draw(state, 8);
+        }
+        try {
+            y.add(branch, kind, cell, argument);
+            return true;
+        } catch (UnsupportedOperationException e) {
+            return false;
+        }
+    }
+
+    private static int draw(long[] state, int bound) {
+        state[0] = state[0] * 6364136223846793005L + 1442695040888963407L;
+        return (int) ((state[0] >>> 33) % bound);
+    }
+
+    private static void flaws() {
+        HistoryJudge x = twoAdds();
+        Check.is("flaws(15)", x.flaws(15), 0);
+        Check.fails("flaws(16)", ARGUMENT, () -> x.flaws(16));
+        Check.fails("flaws(-1)", ARGUMENT, () -> x.flaws(-1));
+        Check.is("flaws(3)", x.flaws(3), 15);
+        x.run(0);
+        Check.is("flaws(0)", x.flaws(0), 3);
+        Check.is("the latest run stays", x.event(1, 3), 3);
+        x.run(0);
+        Check.is("without flaws", x.event(1, 3), 2);
+    }
+
+    private static void runWithoutFlaws() {
+        HistoryJudge x = twoAdds();
+        Check.fails("run(-1)", ARGUMENT, () -> x.run(-1) ? 1 : 0);
+        Check.fails("run(lowest)", ARGUMENT, () -> x.run(Integer.MIN_VALUE) ? 1 : 0);
+        Check.is("refused runs do not count", x.count(1), 0);
+        Check.fails("a refused run is no run", STATE, () -> x.event(0, 0));
+        Check.is("run", x.run(schedule("121212")), true);
+        Check.is("1 answers", x.event(1, 0), 0);
+        Check.is("2 answers", x.event(2, 0), 1);
+        Check.is("1 calls", x.event(1, 2), 0);
+        Check.is("1 returns", x.event(1, 3), 4);
+        Check.is("2 calls", x.event(2, 2), 1);
+        Check.is("2 returns", x.event(2, 3), 5);
+        orderIs(x, 1, 2);
+        Check.is("run", x.run(schedule("122121")), true);
+        Check.is("2 answers first", x.event(2, 0), 6);
+        orderIs(x, 2, 1);
+        Check.is("only the bits of moments count", x.run(Integer.MAX_VALUE), true);
+        Check.is("2 before 1", x.event(1, 2), 3);
+    }
+
+    private static void runSplitAdd() {
+        HistoryJudge x = twoAdds();
+        x.flaws(1);
+        Check.is("noted both", x.run(schedule("12121212")), false);
+        Check.is("1 answers", x.event(1, 0), 0);
+        Check.is("2 answers", x.event(2, 0), 6);
+        Check.is("cell", x.cell(0), 14);
+        Check.fails("no order", ELEMENT, () -> x.order(0));
+        x.flaws(14);
+        Check.is("another flaw", x.run(schedule("12121212")), true);
+        Check.is("1 returns", x.event(1, 3), 4);
+    }
+
+    private static void runSplitSwap() {
+        HistoryJudge x = new HistoryJudge();
+        x.add(0, OPEN, 2, 1);
+        x.add(1, SWAP, 2, 2);
+        x.add(2, SWAP, 2, 3);
+        x.flaws(2);
+        Check.is("noted both", x.run(schedule("12121212")), false);
+        Check.is("1 answers", x.event(1, 0), 1);
+        Check.is("2 answers", x.event(2, 0), 1);
+        Check.is("cell", x.cell(2), 11);
+        x.flaws(13);
+        Check.is("another flaw", x.run(schedule("12121212")), true);
+        Check.is("2 answers", x.event(2, 0), 2);
+    }
+
+    private static void runSplitMove() {
+        HistoryJudge x = new HistoryJudge();
+        x.add(0, OPEN, 2, 1);
+        x.add(0, OPEN, 0, 2);
+        x.add(1, MOVE, 2, 0);
+        x.add(2, WRITE, 0, 5);
+        x.add(2, WRITE, 2, 7);
+        x.flaws(4);
+        Check.is("a move alone shows nothing", x.run(schedule("1122222211")), true);
+        Check.is("it answers what is there then", x.event(2, 0), 7);
+        Check.is("it moves what it noted", x.cell(2), 10);
+        Check.is("the source stays", x.cell(0), 13);
+        orderIs(x, 3, 4, 2);
+        x.add(1, READ, 2, 0);
+        Check.is("a read shows it", x.run(schedule("1122222211")), false);
+        Check.is("the read", x.event(3, 0), 2);
+        x.flaws(11);
+        Check.is("another flaw", x.run(schedule("1122222211")), true);
+        Check.is("whole", x.event(2, 0), 1);
+    }
+
+    private static void runLateWrite() {
+        HistoryJudge x = new HistoryJudge();
+        x.add(0, OPEN, 0, 1);
+        x.add(1, WRITE, 0, 6);
+        x.add(1, READ, 0, 0);
+        x.add(2, READ, 0, 0);
+        x.flaws(8);
+        Check.is("read between return and late", x.run(schedule("1112221111")), false);
+        Check.is("the write answers", x.event(1, 0), 0);
+        Check.is("the write returns", x.event(1, 3), 2);
+        Check.is("the read of 2", x.event(3, 0), 1);
+        Check.is("the late event is moment 6", x.event(2, 2), 7);
+        Check.is("the read of 1", x.event(2, 0), 6);
+        Check.is("cell", x.cell(0), 14);
+        Check.is("read called before the return", x.run(schedule("1121221111")), true);
+        orderIs(x, 3, 1, 2);
+        x.flaws(7);
+        Check.is("another flaw", x.run(schedule("1112221111")), true);
+        Check.is("the read of 2", x.event(3, 0), 6);
+    }
+
+    private static void runPrefixIsWhole() {
+        HistoryJudge x = new HistoryJudge();
+        x.add(0, OPEN, 0, 3);
+        x.add(0, OPEN, 1, 4);
+        x.add(0, WRITE, 0, 9);
+        x.add(0, ADD, 0, 6);
+        x.add(0, MOVE, 0, 0);
+        x.add(0, SWAP, 1, 8 + 3);
+        x.flaws(15);
+        Check.is("prefix alone", x.run(0), true);
+        Check.is("write takes an answer", x.event(2, 1), 0);
+        Check.is("add answers", x.event(3, 0), 6);
+        Check.is("move answers", x.event(4, 0), 6);
+        Check.is("swap answers", x.event(5, 0), 4);
+        Check.is("swap takes the add's answer", x.event(5, 1), 6);
+        Check.is("cell 0", x.cell(0), 12);
+        Check.is("cell 1", x.cell(1), 14);
+        Check.is("cell 2", x.cell(2), 0);
+        Check.is("no call", x.event(2, 2), HistoryJudge.NONE);
+        Check.is("no return", x.event(2, 3), HistoryJudge.NONE);
+    }
+
+    private static void runArgumentsAsTheyWere() {
+        HistoryJudge x = new HistoryJudge();
+        x.add(0, OPEN, 0, 2);
+        x.add(0, OPEN, 1, 0);
+        x.add(1, ADD, 0, 1);
+        x.add(1, SWAP, 1, 10);
+        x.add(2, SWAP, 1, 5);
+        Check.is("run", x.run(schedule("222111111")), true);
+        Check.is("the answer it stands for", x.event(3, 1), 3);
+        Check.is("swap answers", x.event(3, 0), 5);
+        Check.is("cell 1", x.cell(1), 11);
+        orderIs(x, 4, 2, 3);
+        Check.is("run", x.run(schedule("211221111")), true);
+        Check.is("swap of 2 answers", x.event(4, 0), 0);
+        orderIs(x, 2, 4, 3);
+    }
+
+    private static void fails() {
+        HistoryJudge x = twoAdds();
+        Check.fails("0 runs", ARGUMENT, () -> x.fails(1L, 0));
+        Check.fails("51 runs", ARGUMENT, () -> x.fails(1L, 51));
+        Check.fails("-1 runs", ARGUMENT, () -> x.fails(1L, -1));
+        Check.is("refusals do not count", x.count(1), 0);
+        Check.is("no flaws", x.fails(1L, 50), HistoryJudge.NONE);
+        Check.is("50 runs", x.count(1), 50);
+        Check.is("event is of the last run", x.event(0, 0), 0);
+        x.flaws(1);
+        for (long seed = 0; seed < 20; seed++) {
+            int before = x.count(1);
+            int unexplained = x.count(2);
+            int got = x.fails(seed, 5);
+            int due = firstFailure(seed, 5);
+            Check.is("fails by seed " + seed, got, due);
+            Check.is("runs by seed " + seed, x.count(1) - before, due < 0 ? 5 : due + 1);
+            Check.is("unexplained by seed " + seed, x.count(2) - unexplained, due < 0 ? 0 : 1);
+        }
+    }
+
+    private static int firstFailure(long seed, int runs) {
+        HistoryJudge y = twoAdds();
+        y.flaws(1);
+        long[] state = {seed};
+        for (int n = 0; n < runs; n++) {
+            if (!y.run(draw(state, 2147483647))) {
+                return n;
+            }
+        }
+        return HistoryJudge.NONE;
+    }
+
+    private static void shrink() {
+        HistoryJudge x = new HistoryJudge();
+        x.add(0, OPEN, 1, 3);
+        x.add(0, OPEN, 0, 6);
+        x.add(0, READ, 0, 0);
+        x.add(1, READ, 1, 10);
+        x.add(1, ADD, 0, 4);
+        x.add(2, ADD, 0, 8 + 0);
+        x.add(2, ADD, 0, 1);
+        x.flaws(1);
+        Check.is("it fails", x.fails(1L, 50) >= 0, true);
+        int unexplained = x.count(2);
+        int taken = x.shrink(1L, 50);
+        Check.is("count(3)", x.count(3), taken);
+        Check.is("unexplained: first, taken, once more", x.count(2) - unexplained, taken + 2);
+        Check.is("count(0)", x.count(0), 3);
+        commandIs(x, 0, 0, OPEN, 0, 0);
+        commandIs(x, 1, 1, ADD, 0, 1);
+        Check.is("last branch", x.command(2, 0), 2);
+        Check.is("last kind", x.command(2, 1), ADD);
+        Check.fails("the latest run is not explained", ELEMENT, () -> x.order(0));
+        int number = x.event(2, 1);
+        Check.is("lost", x.cell(0) == 8 + 1 || x.cell(0) == 8 + number, true);
+        int runs = x.count(1);
+        unexplained = x.count(2);
+        Check.is("nothing more to take", x.shrink(1L, 50), 0);
+        Check.is("first and once more", x.count(2) - unexplained, 2);
+        Check.is("candidates' runs count", x.count(1) > runs + 2, true);
+        Check.is("count(3) stays", x.count(3), taken);
+    }
+
+    private static void shrinkRefusals() {
+        HistoryJudge x = twoAdds();
+        Check.fails("0 runs", ARGUMENT, () -> x.shrink(1L, 0));
+        Check.fails("51 runs", ARGUMENT, () -> x.shrink(1L, 51));
+        Check.is("refusals do not count", x.count(1), 0);
+        Check.fails("no run", STATE, () -> x.event(0, 0));
+        Check.fails("it does not fail", STATE, () -> x.shrink(1L, 20));
+        Check.is("these runs count", x.count(1), 20);
+        Check.is("and are tallied", x.tally(ADD), 40);
+        Check.is("the last one is the latest", x.event(0, 1), 5);
+        Check.is("nothing was taken", x.count(3), 0);
+        Check.is("the program stays", x.count(0), 3);
+    }
+
+    /** The branch's own OPEN is needed, so it can go away only into the prefix. */
+    private static void shrinkPromotes() {
+        HistoryJudge x = new HistoryJudge();
+        x.add(0, OPEN, 0, 0);
+        x.add(1, OPEN, 1, 0);
+        x.add(1, ADD, 0, 1);
+        x.add(1, MOVE, 0, 0);
+        x.add(2, ADD, 0, 1);
+        x.flaws(1);
+        Check.is("one promoted, one removed and one moved up",
+                x.fails(9L, 50) >= 0 && x.shrink(9L, 50) >= 2, true);
+        for (int i = 0; i < x.count(0); i++) {
+            Check.is("no branch opens", x.command(i, 1) == OPEN && x.command(i, 0) != 0, false);
+        }
+    }
+
+    private static void command() {
+        HistoryJudge x = twoAdds();
+        commandIs(x, 2, 2, ADD, 0, 1);
+        Check.fails("command -1", INDEX, () -> x.command(-1, 0));
+        Check.fails("command 3", INDEX, () -> x.command(3, 0));
+        Check.fails("what -1", INDEX, () -> x.command(0, -1));
+        Check.fails("what 4", INDEX, () -> x.command(0, 4));
+        Check.fails("highest", INDEX, () -> x.command(Integer.MAX_VALUE, Integer.MAX_VALUE));
+    }
+
+    private static void eventAndItsState() {
+        HistoryJudge x = twoAdds();
+        Check.fails("no run", STATE, () -> x.event(0, 0));
+        Check.fails("no such command goes first", INDEX, () -> x.event(3, 0));
+        Check.fails("no such event goes first", INDEX, () -> x.event(0, 4));
+        x.run(0);
+        Check.is("answer", x.event(2, 0), 1);
+        Check.is("number", x.event(2, 1), 1);
+        Check.is("call", x.event(2, 2), 3);
+        Check.is("return", x.event(2, 3), 5);
+        Check.fails("event -1", INDEX, () -> x.event(-1, 0));
+        Check.fails("event 3", INDEX, () -> x.event(3, 0));
+        Check.fails("what -1", INDEX, () -> x.event(0, -1));
+        Check.fails("what 4", INDEX, () -> x.event(0, 4));
+        x.add(2, READ, 0, 0);
+        Check.fails("add came since", STATE, () -> x.event(0, 0));
+        x.fails(1L, 1);
+        Check.is("fails is a run", x.event(0, 1), 5);
+        x.make(7L, 6, 4, 4);
+        Check.fails("make came since", STATE, () -> x.event(0, 0));
+        x.run(0);
+        x.clear();
+        x.add(0, OPEN, 0, 0);
+        Check.fails("clear came since", STATE, () -> x.event(0, 0));
+    }
+
+    private static void orderAndItsState() {
+        HistoryJudge x = new HistoryJudge();
+        x.add(0, OPEN, 0, 0);
+        x.add(1, READ, 0, 0);
+        x.add(1, READ, 0, 0);
+        x.add(2, READ, 0, 0);
+        x.add(2, READ, 0, 0);
+        Check.fails("no run", STATE, () -> x.order(-1));
+        x.run(schedule("121112211222"));
+        orderIs(x, 1, 2, 3, 4);
+        x.run(schedule("121212121212"));
+        orderIs(x, 1, 3, 2, 4);
+        x.run(schedule("222121212111"));
+        orderIs(x, 3, 1, 4, 2);
+        x.run(schedule("222222"));
+        orderIs(x, 3, 4, 1, 2);
+        Check.fails("place -1", ELEMENT, () -> x.order(-1));
+        Check.fails("highest place", ELEMENT, () -> x.order(Integer.MAX_VALUE));
+        x.add(0, READ, 0, 0);
+        Check.fails("add came since", STATE, () -> x.order(0));
+        x.run(0);
+        orderIs(x, 2, 3, 4, 5);
+        x.clear();
+        Check.fails("clear came since", STATE, () -> x.order(0));
+    }
+
+    private static void cell() {
+        HistoryJudge x = new HistoryJudge();
+        x.add(0, OPEN, 0, 7);
+        x.add(0, OPEN, 1, 0);
+        x.add(1, CLOSE, 0, 0);
+        Check.fails("no run", STATE, () -> x.cell(0));
+        Check.fails("no such cell goes first", INDEX, () -> x.cell(3));
+        Check.fails("cell -1", INDEX, () -> x.cell(-1));
+        x.run(0);
+        Check.is("close answers", x.event(2, 0), 7);
+        Check.is("closed", x.cell(0), 0);
+        Check.is("open", x.cell(1), 8);
+        Check.is("never open", x.cell(2), 0);
+        x.add(1, OPEN, 0, 10);
+        Check.fails("add came since", STATE, () -> x.cell(0));
+        x.run(0);
+        Check.is("open again", x.cell(0), 15);
+        x.make(7L, 1, 0, 0);
+        Check.fails("make came since", STATE, () -> x.cell(0));
+    }
+
+    private static void countAndTally() {
+        HistoryJudge x = twoAdds();
+        Check.fails("count -1", INDEX, () -> x.count(-1));
+        Check.fails("count 4", INDEX, () -> x.count(4));
+        Check.fails("tally -1", INDEX, () -> x.tally(-1));
+        Check.fails("tally 7", INDEX, () -> x.tally(7));
+        x.run(0);
+        x.flaws(1);
+        x.run(schedule("12121212"));
+        x.run(0);
+        Check.is("commands", x.count(0), 3);
+        Check.is("runs", x.count(1), 3);
+        Check.is("unexplained", x.count(2), 1);
+        Check.is("taken", x.count(3), 0);
+        Check.is("tally OPEN", x.tally(OPEN), 3);
+        Check.is("tally ADD", x.tally(ADD), 6);
+        Check.is("tally READ", x.tally(READ), 0);
+    }
+}
