@@ -133,7 +133,7 @@ public final class HistoryJudge {
         int steps = 0;
         int k = 0;
         while (k < CANDIDATES && steps < MOST_TAKEN) {
-            if (isCandidate(k) && trial.isValid() && tester.firstFailure(trial, seed, runs) != NONE) {
+            if (prepareCandidate(k) && trial.isValid() && tester.firstFailure(trial, seed, runs) != NONE) {
                 program.copyFrom(trial);
                 failing = tester.schedule;
                 steps++;
@@ -263,7 +263,7 @@ public final class HistoryJudge {
     }
 
     /** Makes candidate k of the program in the trial; false when there is none of that number. */
-    private boolean isCandidate(int k) {
+    private boolean prepareCandidate(int k) {
         trial.copyFrom(program);
         if (k < COMMANDS) {
             return trial.remove(program.size() - 1 - k);

@@ -35,9 +35,12 @@ public final class PromisesTest {
         runPrefixIsWhole();
         runArgumentsAsTheyWere();
         fails();
+        failsDrawsBelow();
         shrink();
         shrinkRefusals();
         shrinkPromotes();
+        shrinkPromotesPastBranch1();
+        shrinkHalves();
         command();
         eventAndItsState();
         orderAndItsState();
@@ -460,6 +463,25 @@ public final class PromisesTest {
         return HistoryJudge.NONE;
     }
 
+    /** Seeds whose first number's 31 bits are the two highest that there can be. */
+    private static void failsDrawsBelow() {
+        HistoryJudge x = twoAdds();
+        x.fails(seedOfFirst(2147483647L), 1);
+        Check.is("2147483647 is schedule 0: 1 goes first", x.event(1, 3), 2);
+        x.fails(seedOfFirst(2147483646L), 1);
+        Check.is("2147483646 stays: 1 calls first", x.event(1, 2), 0);
+        Check.is("2147483646 stays: 2 returns first", x.event(2, 3), 3);
+    }
+
+    private static long seedOfFirst(long highest) {
+        long factor = 6364136223846793005L;
+        long inverse = factor;
+        for (int n = 0; n < 6; n++) {
+            inverse *= 2 - factor * inverse;
+        }
+        return ((highest << 33) - 1442695040888963407L) * inverse;
+    }
+
     private static void shrink() {
         HistoryJudge x = new HistoryJudge();
         x.add(0, OPEN, 1, 3);
@@ -505,20 +527,70 @@ public final class PromisesTest {
         Check.is("the program stays", x.count(0), 3);
     }
 
-    /** The branch's own OPEN is needed, so it can go away only into the prefix. */
+    /** The READ is needed for its answer, so it can leave its branch only for the prefix. */
     private static void shrinkPromotes() {
         HistoryJudge x = new HistoryJudge();
-        x.add(0, OPEN, 0, 0);
-        x.add(1, OPEN, 1, 0);
-        x.add(1, ADD, 0, 1);
-        x.add(1, MOVE, 0, 0);
+        x.add(0, OPEN, 0, 1);
+        x.add(1, READ, 0, 0);
+        x.add(1, ADD, 0, 8 + 1);
         x.add(2, ADD, 0, 1);
         x.flaws(1);
-        Check.is("one promoted, one removed and one moved up",
-                x.fails(9L, 50) >= 0 && x.shrink(9L, 50) >= 2, true);
-        for (int i = 0; i < x.count(0); i++) {
-            Check.is("no branch opens", x.command(i, 1) == OPEN && x.command(i, 0) != 0, false);
-        }
+        Check.is("branch 1's READ", x.shrink(1L, 50), 1);
+        Check.is("none is gone", x.count(0), 4);
+        commandIs(x, 1, 0, READ, 0, 0);
+        commandIs(x, 2, 1, ADD, 0, 8 + 1);
+        commandIs(x, 3, 2, ADD, 0, 1);
+        Check.is("as it fails", x.event(2, 0), 2);
+        Check.is("as it fails", x.event(3, 0), 2);
+        x.clear();
+        x.add(0, OPEN, 0, 1);
+        x.add(1, ADD, 0, 1);
+        x.add(2, READ, 0, 0);
+        x.add(2, ADD, 0, 8 + 2);
+        Check.is("branch 2's READ", x.shrink(1L, 50), 1);
+        commandIs(x, 1, 0, READ, 0, 0);
+        commandIs(x, 2, 1, ADD, 0, 1);
+        commandIs(x, 3, 2, ADD, 0, 8 + 1);
+        Check.is("taken in all", x.count(3), 2);
+    }
+
+    /**
+     * Branch 2's READ leaves for the prefix, past a branch 1 whose READ shows that the MOVE took what
+     * was no longer there, and stands for the MOVE's answer.
+     */
+    private static void shrinkPromotesPastBranch1() {
+        HistoryJudge x = new HistoryJudge();
+        x.add(0, OPEN, 0, 0);
+        x.add(0, OPEN, 1, 0);
+        x.add(0, OPEN, 2, 1);
+        x.add(1, MOVE, 0, 0);
+        x.add(1, READ, 0, 8 + 3);
+        x.add(2, READ, 2, 0);
+        x.add(2, WRITE, 1, 8 + 5);
+        x.add(2, WRITE, 0, 1);
+        x.flaws(4);
+        Check.is("the READ alone", x.shrink(1L, 50), 1);
+        commandIs(x, 3, 0, READ, 2, 0);
+        commandIs(x, 4, 1, MOVE, 0, 0);
+        commandIs(x, 5, 1, READ, 0, 8 + 4);
+        commandIs(x, 6, 2, WRITE, 1, 8 + 3);
+        commandIs(x, 7, 2, WRITE, 0, 1);
+        Check.is("the MOVE answers", x.event(4, 0), 1);
+        Check.is("the READ takes that", x.event(5, 1), 1);
+        Check.is("the READ answers", x.event(5, 0), 0);
+    }
+
+    /** An ADD of 0 loses nothing, so the numbers go down by halves, to 1. */
+    private static void shrinkHalves() {
+        HistoryJudge x = new HistoryJudge();
+        x.add(0, OPEN, 2, 7);
+        x.add(1, ADD, 2, 7);
+        x.add(2, ADD, 2, 2);
+        x.flaws(1);
+        Check.is("7 to 0, 7 to 3 to 1, 2 to 1", x.shrink(1L, 50), 4);
+        commandIs(x, 0, 0, OPEN, 2, 0);
+        commandIs(x, 1, 1, ADD, 2, 1);
+        commandIs(x, 2, 2, ADD, 2, 1);
     }
 
     private static void command() {
