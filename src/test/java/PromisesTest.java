@@ -1,85 +1,10 @@
 /** Each promise of the document by runs of calls whose answers were worked out by hand. */
-public final class PromisesTest {
-    private static final int OPEN = 0;
-    private static final int CLOSE = 1;
-    private static final int READ = 2;
-    private static final int WRITE = 3;
-    private static final int ADD = 4;
-    private static final int SWAP = 5;
-    private static final int MOVE = 6;
-
-    private static final Class<IllegalArgumentException> ARGUMENT = IllegalArgumentException.class;
-    private static final Class<IllegalStateException> STATE = IllegalStateException.class;
-    private static final Class<UnsupportedOperationException> UNSUPPORTED = UnsupportedOperationException.class;
-    private static final Class<IndexOutOfBoundsException> INDEX = IndexOutOfBoundsException.class;
-    private static final Class<java.util.NoSuchElementException> ELEMENT = java.util.NoSuchElementException.class;
-
+public final class PromisesTest extends Bench {
     private PromisesTest() {
     }
 
     public static void main(String[] args) {
-        newObject();
-        addNumbersAndArguments();
-        addRefusals();
-        addValidity();
-        addRoom();
-        clear();
-        make();
-        makeLeavesOut();
-        flaws();
-        runWithoutFlaws();
-        runSplitAdd();
-        runSplitSwap();
-        runSplitMove();
-        runLateWrite();
-        runPrefixIsWhole();
-        runArgumentsAsTheyWere();
-        fails();
-        failsDrawsBelow();
-        shrink();
-        shrinkRefusals();
-        shrinkPromotes();
-        shrinkPromotesPastBranch1();
-        shrinkHalves();
-        command();
-        eventAndItsState();
-        orderAndItsState();
-        cell();
-        countAndTally();
-        Check.end();
-    }
-
-    /** A schedule from a text of branches: the first letter is that of moment 0. */
-    private static int schedule(String branches) {
-        int bits = 0;
-        for (int m = 0; m < branches.length(); m++) {
-            if (branches.charAt(m) == '2') {
-                bits |= 1 << m;
-            }
-        }
-        return bits;
-    }
-
-    private static HistoryJudge twoAdds() {
-        HistoryJudge x = new HistoryJudge();
-        x.add(0, OPEN, 0, 5);
-        x.add(1, ADD, 0, 3);
-        x.add(2, ADD, 0, 1);
-        return x;
-    }
-
-    private static void commandIs(HistoryJudge x, int i, int branch, int kind, int cell, int argument) {
-        Check.is("command(" + i + ", 0)", x.command(i, 0), branch);
-        Check.is("command(" + i + ", 1)", x.command(i, 1), kind);
-        Check.is("command(" + i + ", 2)", x.command(i, 2), cell);
-        Check.is("command(" + i + ", 3)", x.command(i, 3), argument);
-    }
-
-    private static void orderIs(HistoryJudge x, int... due) {
-        for (int k = 0; k < due.length; k++) {
-            Check.is("order(" + k + ")", x.order(k), due[k]);
-        }
-        Check.fails("order behind the last", ELEMENT, () -> x.order(due.length));
+        Check.runAllOf(PromisesTest.class);
     }
 
     private static void newObject() {
@@ -236,55 +161,12 @@ public final class PromisesTest {
             HistoryJudge x = new HistoryJudge();
             HistoryJudge y = new HistoryJudge();
             int made = x.make(seed, 4, 4, 4);
-            addDrawn(y, seed, new int[] {4, 4, 4});
+            addDrawn(y, seed, 4, 4, 4);
             Check.is("make by seed " + seed, made, y.count(0));
-            for (int i = 0; i < made && i < y.count(0); i++) {
-                commandIs(x, i, y.command(i, 0), y.command(i, 1), y.command(i, 2), y.command(i, 3));
-            }
+            Check.same("commands by seed " + seed, commandsOf(x), commandsOf(y));
             leftOut |= made < 12;
         }
         Check.is("a command was left out", leftOut, true);
-    }
-
-    private static void addDrawn(HistoryJudge y, long seed, int[] wanted) {
-        long[] state = {seed};
-        for (int branch = 0; branch < 3; branch++) {
-            for (int n = 0; n < wanted[branch]; n++) {
-                int tries = 0;
-                while (tries < 20 && !addOneDrawn(y, state, branch)) {
-                    tries++;
-                }
-            }
-        }
-    }
-
-    private static boolean addOneDrawn(HistoryJudge y, long[] state, int branch) {
-        int kind = draw(state, 7);
-        int cell = draw(state, 3);
-        int choice = draw(state, 4);
-        java.util.List<Integer> known = new java.util.ArrayList<>();
-        for (int i = 0; i < y.count(0); i++) {
-            if (y.command(i, 0) == 0 || y.command(i, 0) == branch) {
-                known.add(i);
-            }
-        }
-        int argument;
-        if (choice == 0 && !known.isEmpty()) {
-            argument = 8 + known.get(draw(state, known.size()));
-        } else {
-            argument = draw(state, 8);
-        }
-        try {
-            y.add(branch, kind, cell, argument);
-            return true;
-        } catch (UnsupportedOperationException e) {
-            return false;
-        }
-    }
-
-    private static int draw(long[] state, int bound) {
-        state[0] = state[0] * 6364136223846793005L + 1442695040888963407L;
-        return (int) ((state[0] >>> 33) % bound);
     }
 
     private static void flaws() {
@@ -454,9 +336,9 @@ public final class PromisesTest {
     private static int firstFailure(long seed, int runs) {
         HistoryJudge y = twoAdds();
         y.flaws(1);
-        long[] state = {seed};
+        Drawing drawing = new Drawing(seed);
         for (int n = 0; n < runs; n++) {
-            if (!y.run(draw(state, 2147483647))) {
+            if (!y.run(drawing.schedule())) {
                 return n;
             }
         }
