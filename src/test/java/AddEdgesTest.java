@@ -212,6 +212,19 @@ public final class AddEdgesTest extends Bench {
         Check.is("the prefix has room", x.add(0, OPEN, 2, 0), 0);
     }
 
+    private static void prefixHasRoomBesideFullBranches() {
+        HistoryJudge x = new HistoryJudge();
+        for (int n = 0; n < 4; n++) {
+            x.add(1, n == 0 ? OPEN : READ, 0, 0);
+            x.add(2, n == 0 ? OPEN : READ, 1, 0);
+        }
+        for (int n = 0; n < 6; n++) {
+            Check.is("command " + n, x.add(0, n == 0 ? OPEN : READ, 2, 0), n);
+        }
+        Check.is("commands", x.count(0), 14);
+        refused("a seventh", STATE, x, 0, READ, 2, 0);
+    }
+
     private static void everythingIsFullAt14() {
         HistoryJudge x = full(READ);
         Check.is("commands", x.count(0), 14);

@@ -145,4 +145,25 @@ public final class CountEdgesTest extends Bench {
         Check.is("taken", x.count(3), taken);
         Check.is("something was", taken > CALLS, true);
     }
+
+    /**
+     * Each shrinking takes nothing, but runs 13 times until it fails, 50 times for each of 6
+     * candidates, two of which have one ADD less, and once more.
+     */
+    private static void countsBeyond16Bits() {
+        HistoryJudge x = new HistoryJudge();
+        x.add(0, OPEN, 0, 0);
+        x.add(1, ADD, 0, 1);
+        x.add(2, ADD, 0, 1);
+        x.flaws(1);
+        int times = 400;
+        for (int n = 0; n < times; n++) {
+            Check.is("taken", x.shrink(0L, 50), 0);
+        }
+        int runs = 13 + 6 * 50 + 1;
+        Check.is("runs", x.count(1), times * runs);
+        Check.is("unexplained", x.count(2), times * 2);
+        Check.is("OPENs", x.tally(OPEN), times * runs);
+        Check.is("ADDs", x.tally(ADD), times * (2 * runs - 2 * 50));
+    }
 }

@@ -12,7 +12,9 @@ import java.util.TreeSet;
 
 /** The public face of the document, and what of LANGUAGE.md can be seen without reading closely. */
 public final class FaceTest {
-    private static final String[] FACE = {
+    private static final Class<?> FACE = HistoryJudge.class;
+
+    private static final String[] METHODS = {
         "int add(int,int,int,int)",
         "int clear()",
         "int make(long,int,int,int)",
@@ -28,41 +30,31 @@ public final class FaceTest {
         "int tally(int)",
     };
 
+    private static final Set<String> IMPORTS = Set.of("java.util.NoSuchElementException", "java.util.ArrayList",
+            "java.util.List", "java.util.Arrays", "java.util.Iterator");
+
+    /** Rules 2, 5, 6 and 13: what stands nowhere in the program but in a comment or a text. */
     private static final String[] BANNED = {
-        "->", "::", "finally", "synchronized", "assert ", "static {", "catch", "Math.random", "nanoTime",
-        "currentTimeMillis", "Random", "Exact(", "hashCode", "toString", "System.out",
+        "::", "finally", "synchronized", "assert ", "static {", "Random", "nanoTime", "currentTimeMillis", "Exact(",
+        "System.out", "System.err", "System.in", "System.get", "Thread", "java.io", "java.nio", "java.net",
     };
 
     private FaceTest() {
     }
 
-    public static void main(String[] args) throws IOException {
-        face();
-        members();
-        text();
-        Check.end();
+    public static void main(String[] args) {
+        Check.runAllOf(FaceTest.class);
     }
 
-    private static void face() {
+    private static void methods() {
         Set<String> got = new TreeSet<>();
-        Set<String> names = new HashSet<>();
-        for (Method m : HistoryJudge.class.getDeclaredMethods()) {
+        for (Method m : FACE.getDeclaredMethods()) {
             if (Modifier.isPublic(m.getModifiers())) {
                 Check.is("static " + m, Modifier.isStatic(m.getModifiers()), false);
                 got.add(shape(m));
-                names.add(m.getName());
             }
         }
-        Set<String> due = new TreeSet<>(Arrays.asList(FACE));
-        if (!got.equals(due)) {
-            Check.tell("the face is " + got + ", due is " + due);
-        }
-        for (Method m : HistoryJudge.class.getDeclaredMethods()) {
-            if (!Modifier.isPublic(m.getModifiers())) {
-                Check.is("private " + m, Modifier.isPrivate(m.getModifiers()), true);
-                Check.is("a private method bears a public name: " + m, names.contains(m.getName()), false);
-            }
-        }
+        Check.same("the face", got.toString(), new TreeSet<>(Arrays.asList(METHODS)).toString());
     }
 
     private static String shape(Method m) {
@@ -75,40 +67,83 @@ public final class FaceTest {
         return text.append(')').toString();
     }
 
-    private static void members() {
-        Class<?> face = HistoryJudge.class;
-        Check.is("final class", Modifier.isFinal(face.getModifiers()), true);
-        Constructor<?>[] constructors = face.getDeclaredConstructors();
+    /** Exceptions that must be caught would keep a caller of the document's face from compiling. */
+    private static void exceptionsThatNeedNoCatch() {
+        for (Method m : FACE.getDeclaredMethods()) {
+            for (Class<?> thrown : m.getExceptionTypes()) {
+                Check.is(m + " throws " + thrown, RuntimeException.class.isAssignableFrom(thrown), true);
+            }
+        }
+    }
+
+    private static void otherMethodsArePrivate() {
+        Set<String> names = new HashSet<>();
+        for (String method : METHODS) {
+            names.add(method.substring(method.indexOf(' ') + 1, method.indexOf('(')));
+        }
+        for (Method m : FACE.getDeclaredMethods()) {
+            if (!Modifier.isPublic(m.getModifiers())) {
+                Check.is("private " + m, Modifier.isPrivate(m.getModifiers()), true);
+                Check.is("a private method bears a public name: " + m, names.contains(m.getName()), false);
+            }
+            Check.is("parameters of " + m, m.getParameterCount() <= 7, true);
+        }
+    }
+
+    private static void classAndConstructor() {
+        Check.is("public class", Modifier.isPublic(FACE.getModifiers()), true);
+        Check.is("final class", Modifier.isFinal(FACE.getModifiers()), true);
+        Check.is("no package", FACE.getPackageName().isEmpty(), true);
+        Check.is("extends nothing", FACE.getSuperclass() == Object.class, true);
+        Constructor<?>[] constructors = FACE.getDeclaredConstructors();
         Check.is("constructors", constructors.length, 1);
         Check.is("public constructor", Modifier.isPublic(constructors[0].getModifiers()), true);
         Check.is("constructor's parameters", constructors[0].getParameterCount(), 0);
-        for (Field f : face.getDeclaredFields()) {
-            boolean constant = f.getName().equals("NONE");
-            Check.is("public field " + f, Modifier.isPublic(f.getModifiers()), constant);
-            Check.is("private field " + f, Modifier.isPrivate(f.getModifiers()), !constant);
-        }
-        Check.is("classes inside", face.getDeclaredClasses().length <= 12, true);
-        for (Class<?> inside : face.getDeclaredClasses()) {
-            Check.is("static " + inside, Modifier.isStatic(inside.getModifiers()), true);
-            Check.is("public " + inside, Modifier.isPublic(inside.getModifiers()), false);
-            for (Field f : inside.getDeclaredFields()) {
-                boolean movable = Modifier.isStatic(f.getModifiers()) && !Modifier.isFinal(f.getModifiers());
-                Check.is("static state " + f, movable, false);
+    }
+
+    private static void constants() {
+        Set<String> got = new TreeSet<>();
+        for (Field f : FACE.getDeclaredFields()) {
+            if (!Modifier.isPrivate(f.getModifiers()) && !f.isSynthetic()) {
+                got.add(Modifier.toString(f.getModifiers()) + " " + f.getType() + " " + f.getName());
             }
+        }
+        Check.same("constants", got.toString(), "[public static final int NONE]");
+        Check.is("NONE", HistoryJudge.NONE, -1);
+    }
+
+    private static void noStaticState() {
+        lookForStaticState(FACE);
+        for (Class<?> inside : FACE.getDeclaredClasses()) {
+            Check.is("public " + inside, Modifier.isPublic(inside.getModifiers()), false);
+            lookForStaticState(inside);
+        }
+    }
+
+    private static void lookForStaticState(Class<?> of) {
+        for (Field f : of.getDeclaredFields()) {
+            boolean movable = Modifier.isStatic(f.getModifiers()) && !Modifier.isFinal(f.getModifiers());
+            Check.is("static state " + f, movable, false);
         }
     }
 
     private static void text() throws IOException {
         String text = Files.readString(Path.of("src/main/java/HistoryJudge.java"));
+        Check.is("plain characters", text.chars().allMatch(c -> c < 256), true);
+        String code = withoutCommentsAndTexts(text);
         for (String banned : BANNED) {
-            Check.is("the text holds " + banned, text.contains(banned), false);
+            Check.is("the code holds " + banned, code.contains(banned), false);
         }
-        for (String line : text.split("\n")) {
-            if (line.startsWith("import ") && !line.equals("import java.util.NoSuchElementException;")) {
+        for (String line : code.split("\n")) {
+            boolean isImport = line.startsWith("import ");
+            if (isImport && !IMPORTS.contains(line.substring("import ".length()).replace(";", "").strip())) {
                 Check.tell("import of " + line);
             }
             Check.is("package line", line.startsWith("package "), false);
         }
-        Check.is("plain characters", text.chars().allMatch(c -> c < 256), true);
+    }
+
+    private static String withoutCommentsAndTexts(String text) {
+        return text.replaceAll("(?s)/\\*.*?\\*/", "").replaceAll("//[^\n]*", "").replaceAll("\"[^\"\n]*\"", "\"\"");
     }
 }

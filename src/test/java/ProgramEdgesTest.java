@@ -241,6 +241,15 @@ public final class ProgramEdgesTest extends Bench {
         Check.is("flaws stay", x.flaws(0), 6);
     }
 
+    /** Seed 0 is a seed like others: the state does not go on where another drawing left it. */
+    private static void makeBySeed0BehindOtherDrawings() {
+        HistoryJudge x = new HistoryJudge();
+        x.make(7L, 6, 4, 4);
+        x.fails(5L, 9);
+        Check.is("make", x.make(0L, 6, 0, 0), 6);
+        Check.same("commands", commandsOf(x), "0 0 2 6,0 0 0 7,0 6 2 3,0 1 0 9,0 2 2 3,0 5 2 2,");
+    }
+
     private static void flawsBelow0() {
         HistoryJudge x = twoAdds();
         x.flaws(9);

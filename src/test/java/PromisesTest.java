@@ -576,4 +576,23 @@ public final class PromisesTest extends Bench {
         Check.is("tally ADD", x.tally(ADD), 6);
         Check.is("tally READ", x.tally(READ), 0);
     }
+
+    /** The example of README.md, call by call. */
+    private static void example() {
+        HistoryJudge judge = new HistoryJudge();
+        Check.is("add", judge.add(0, 0, 0, 5), 0);
+        Check.is("add", judge.add(1, 4, 0, 3), 1);
+        Check.is("add", judge.add(2, 4, 0, 1), 2);
+        Check.is("add", judge.add(2, 5, 0, 8 + 2), 3);
+        Check.is("run", judge.run(0), true);
+        Check.is("order", judge.order(0), 1);
+        Check.is("flaws", judge.flaws(1), 0);
+        Check.is("run", judge.run(0b10101010), false);
+        Check.is("event", judge.event(2, 0), 6);
+        Check.is("cell", judge.cell(0), 14);
+        Check.is("fails", judge.fails(1, 20), 0);
+        Check.is("shrink", judge.shrink(1, 20), 3);
+        Check.is("count", judge.count(0), 3);
+        Check.same("commands", commandsOf(judge), "0 0 0 0,1 4 0 1,2 4 0 1,");
+    }
 }

@@ -580,4 +580,220 @@ public final class RunEdgesTest extends Bench {
         y.run(0);
         Check.same("the latest run", latestRunOf(x), latestRunOf(y));
     }
+
+    /** Each branch keeps what it noted, while the other one notes something else. */
+    private static void notesOfBothBranchesAreApart() {
+        for (int kind : new int[] {ADD, SWAP}) {
+            HistoryJudge x = new HistoryJudge();
+            x.add(0, OPEN, 0, 1);
+            x.add(0, OPEN, 1, 5);
+            x.add(1, kind, 0, 2);
+            x.add(2, kind, 1, 2);
+            x.flaws(15);
+            Check.is("run", x.run(schedule("12121212")), true);
+            Check.is("1 answers", x.event(2, 0), kind == ADD ? 3 : 1);
+            Check.is("2 answers", x.event(3, 0), kind == ADD ? 7 : 5);
+            Check.is("cell 0", x.cell(0), 8 + (kind == ADD ? 3 : 2));
+            Check.is("cell 1", x.cell(1), 8 + (kind == ADD ? 7 : 2));
+        }
+        HistoryJudge x = new HistoryJudge();
+        x.add(0, OPEN, 0, 1);
+        x.add(0, OPEN, 1, 5);
+        x.add(0, OPEN, 2, 6);
+        x.add(1, MOVE, 0, 0);
+        x.add(2, MOVE, 1, 0);
+        x.flaws(4);
+        Check.is("run", x.run(schedule("12121212")), true);
+        Check.is("cell 0", x.cell(0), 8 + 5);
+        Check.is("cell 1", x.cell(1), 8 + 6);
+    }
+
+    private static HistoryJudge twoSwaps() {
+        HistoryJudge x = new HistoryJudge();
+        x.add(0, OPEN, 0, 1);
+        x.add(1, SWAP, 0, 2);
+        x.add(2, SWAP, 0, 3);
+        return x;
+    }
+
+    /** Branch 1 notes cell 1, which branch 2 then overwrites, and does its MOVE behind that of branch 2. */
+    private static HistoryJudge threeMoves() {
+        HistoryJudge x = new HistoryJudge();
+        x.add(0, OPEN, 0, 0);
+        x.add(0, OPEN, 1, 1);
+        x.add(0, OPEN, 2, 2);
+        x.add(1, MOVE, 0, 0);
+        x.add(1, READ, 0, 0);
+        x.add(2, MOVE, 1, 0);
+        x.add(2, MOVE, 0, 0);
+        return x;
+    }
+
+    private static HistoryJudge writeAndRead() {
+        HistoryJudge x = new HistoryJudge();
+        x.add(0, OPEN, 0, 0);
+        x.add(1, WRITE, 0, 5);
+        x.add(2, READ, 0, 0);
+        return x;
+    }
+
+    private static void flawIsThere(String what, HistoryJudge x, String branches, int bits, int own) {
+        x.flaws(bits);
+        Check.is(what + " with flaws " + bits, x.run(schedule(branches)), (bits & own) == 0);
+    }
+
+    private static void eachFlawInEachSetOfFlaws() {
+        for (int bits = 0; bits < 16; bits++) {
+            flawIsThere("ADD", twoAdds(), "12121212", bits, 1);
+            flawIsThere("SWAP", twoSwaps(), "12121212", bits, 2);
+            flawIsThere("MOVE", threeMoves(), "1122222222", bits, 4);
+            flawIsThere("WRITE", writeAndRead(), "1112221", bits, 8);
+        }
+    }
+
+    /** OPEN, CLOSE and READ have three events, whatever the flaws are. */
+    private static void kindsThatNoFlawTouches() {
+        HistoryJudge x = new HistoryJudge();
+        x.add(1, OPEN, 0, 4);
+        x.add(1, READ, 0, 0);
+        x.add(1, CLOSE, 0, 0);
+        for (int bits = 0; bits < 16; bits++) {
+            x.flaws(bits);
+            Check.is("run", x.run(0), true);
+            eventIs(x, 0, 0, 4, 0, 2);
+            eventIs(x, 1, 4, 0, 3, 5);
+            eventIs(x, 2, 4, 0, 6, 8);
+        }
+    }
+
+    /**
+     * Some READs, then a WRITE that is late, and a READ of the other branch between its return and
+     * that: at whatever place the WRITE stands, no order may put the READ before it.
+     */
+    private static void timesHoldAtEachPlace() {
+        for (int n = 0; n < 4; n++) {
+            for (int m = 0; m < 4; m++) {
+                timesHold(1, n, m);
+                timesHold(2, n, m);
+            }
+        }
+    }
+
+    private static void timesHold(int branch, int own, int others) {
+        HistoryJudge x = new HistoryJudge();
+        x.add(0, OPEN, 0, 0);
+        StringBuilder row = new StringBuilder();
+        for (int n = 0; n < own; n++) {
+            x.add(branch, READ, 0, 0);
+            row.append("111");
+        }
+        for (int n = 0; n < others; n++) {
+            x.add(3 - branch, READ, 0, 0);
+            row.append("222");
+        }
+        x.add(branch, WRITE, 0, 5);
+        x.add(3 - branch, READ, 0, 0);
+        row.append("111").append("222").append("1");
+        int bits = branch == 1 ? schedule(row.toString()) : HIGHEST & ~schedule(row.toString());
+        String what = own + " before a WRITE of branch " + branch + ", " + others + " in the other";
+        Check.is(what, x.run(bits), true);
+        x.flaws(8);
+        Check.is(what + ", late", x.run(bits), false);
+    }
+
+    /** One command, then one of the other branch: each returns before the next is called. */
+    private static void orderByTimesAlone() {
+        HistoryJudge x = full(READ);
+        x.run(schedule("111222111222111222111222"));
+        orderIs(x, 6, 10, 7, 11, 8, 12, 9, 13);
+        x.run(schedule("222111222111222111222111"));
+        orderIs(x, 10, 6, 11, 7, 12, 8, 13, 9);
+        x.run(schedule("222222111111222222111111"));
+        orderIs(x, 10, 11, 6, 7, 12, 13, 8, 9);
+    }
+
+    /** The two commands of each pair overlap, so that the answers alone tell which one came first. */
+    private static void orderByAnswersAlone() {
+        HistoryJudge x = new HistoryJudge();
+        x.add(0, OPEN, 0, 0);
+        x.add(1, ADD, 0, 1);
+        x.add(1, ADD, 0, 1);
+        x.add(2, ADD, 0, 2);
+        x.add(2, ADD, 0, 2);
+        Check.is("run", x.run(schedule("122112" + "122112")), true);
+        Check.is("1 answers", x.event(1, 0), 3);
+        Check.is("2 answers", x.event(3, 0), 2);
+        orderIs(x, 3, 1, 4, 2);
+    }
+
+    private static void answerIsNotExplained(String what, HistoryJudge x) {
+        String row = "111" + "222222" + "1";
+        Check.is(what, x.run(schedule(row)), true);
+        x.flaws(8);
+        Check.is(what + " behind a late WRITE", x.run(schedule(row)), false);
+    }
+
+    /** A late WRITE of 5 has returned when branch 2 answers as if there were 0: no kind may do so. */
+    private static void answersOfEachKindAreLookedAt() {
+        for (int kind : new int[] {READ, ADD, SWAP, MOVE}) {
+            HistoryJudge x = new HistoryJudge();
+            x.add(0, OPEN, 0, 0);
+            x.add(0, OPEN, 1, 0);
+            x.add(1, WRITE, 0, 5);
+            x.add(2, kind, 0, 1);
+            answerIsNotExplained("kind " + kind, x);
+        }
+        HistoryJudge x = new HistoryJudge();
+        x.add(0, OPEN, 0, 0);
+        x.add(0, OPEN, 1, 0);
+        x.add(1, WRITE, 1, 5);
+        x.add(2, MOVE, 0, 0);
+        x.add(2, CLOSE, 0, 0);
+        answerIsNotExplained("CLOSE of what was moved", x);
+    }
+
+    /** What the cells hold at the end is no answer, so that no order needs to explain it. */
+    private static void cellsAtTheEndAreNotLookedAt() {
+        HistoryJudge x = new HistoryJudge();
+        x.add(0, OPEN, 0, 0);
+        x.add(1, WRITE, 0, 5);
+        x.add(2, WRITE, 0, 6);
+        x.add(2, READ, 0, 0);
+        x.flaws(8);
+        Check.is("run", x.run(schedule("111" + "2222222" + "1")), true);
+        Check.is("the late WRITE came last", x.cell(0), 8 + 5);
+        orderIs(x, 1, 2, 3);
+    }
+
+    /** What is late of the prefix is done before its next command, and before the branches. */
+    private static void lateWritesOfThePrefix() {
+        HistoryJudge x = new HistoryJudge();
+        x.add(0, OPEN, 0, 1);
+        x.add(0, WRITE, 0, 2);
+        x.add(0, READ, 0, 0);
+        x.add(0, WRITE, 0, 3);
+        x.add(1, READ, 0, 0);
+        x.add(2, READ, 0, 0);
+        x.flaws(8);
+        Check.is("run", x.run(schedule("121212")), true);
+        Check.is("the READ of the prefix", x.event(2, 0), 2);
+        Check.is("the READ of branch 1", x.event(4, 0), 3);
+        Check.is("the READ of branch 2", x.event(5, 0), 3);
+        Check.is("the first moment is a branch's", x.event(4, 2), 0);
+    }
+
+    /** The number is that of the CALL, though the WRITE is done two events later, and late. */
+    private static void lateWriteOfAnAnswer() {
+        HistoryJudge x = new HistoryJudge();
+        x.add(0, OPEN, 0, 3);
+        x.add(1, READ, 0, 0);
+        x.add(1, WRITE, 0, 8 + 1);
+        x.add(2, SWAP, 0, 6);
+        x.flaws(8);
+        Check.is("run", x.run(schedule("111" + "11" + "222" + "11")), true);
+        Check.is("number", x.event(2, 1), 3);
+        Check.is("SWAP answers", x.event(3, 0), 3);
+        Check.is("cell", x.cell(0), 8 + 3);
+        orderIs(x, 1, 2, 3);
+    }
 }

@@ -471,4 +471,208 @@ public final class ShrinkEdgesTest extends Bench {
             Check.same("the latest run by seed " + seed, latestRunOf(x), latestRunOf(y));
         }
     }
+
+    /** Two SWAPs that fail, and commands beside them that have nothing to do with it. */
+    private static HistoryJudge flawedSwaps(int cells) {
+        HistoryJudge x = new HistoryJudge();
+        x.add(0, OPEN, 0, 1);
+        for (int c = 1; c <= cells; c++) {
+            x.add(0, OPEN, c, 0);
+        }
+        x.flaws(2);
+        return x;
+    }
+
+    private static void shrinkLeavesOutEachKind() {
+        for (int branch = 0; branch < 3; branch++) {
+            for (int kind = OPEN; kind <= MOVE; kind++) {
+                HistoryJudge x = flawedSwaps(kind == OPEN ? 0 : 2);
+                x.add(branch, kind, 1, 4);
+                x.add(1, SWAP, 0, 0);
+                x.add(2, SWAP, 0, 0);
+                Check.is("kind " + kind + " of branch " + branch, x.shrink(1L, 50), kind == OPEN ? 1 : 3);
+                Check.same("commands", commandsOf(x), "0 0 0 1,1 5 0 0,2 5 0 0,");
+            }
+        }
+    }
+
+    /** The command is kept, for a SWAP stands for its answer; it moves, and its 5 becomes 0. */
+    private static void shrinkMovesAndLowersEachKind() {
+        for (int branch = 1; branch < 3; branch++) {
+            for (int kind = OPEN; kind <= MOVE; kind++) {
+                int cells = kind == OPEN ? 0 : kind == MOVE ? 2 : 1;
+                HistoryJudge x = flawedSwaps(cells);
+                x.add(branch, kind, 1, 5);
+                x.add(branch, SWAP, 0, 8 + 1 + cells);
+                x.add(3 - branch, SWAP, 0, 0);
+                Check.is("kind " + kind + " of branch " + branch, x.shrink(1L, 50), 2);
+                commandIs(x, 1 + cells, 0, kind, 1, 0);
+                commandIs(x, 2 + cells, 1, SWAP, 0, branch == 1 ? 8 + 1 + cells : 0);
+                commandIs(x, 3 + cells, 2, SWAP, 0, branch == 2 ? 8 + 1 + cells : 0);
+                Check.is("commands", x.count(0), 4 + cells);
+            }
+        }
+    }
+
+    /** Each command but the OPEN and the last of each branch goes, the last first. */
+    private static void shrinkOf14CommandsTo3() {
+        HistoryJudge x = new HistoryJudge();
+        x.add(0, OPEN, 0, 7);
+        for (int n = 1; n < 6; n++) {
+            x.add(0, READ, 0, n);
+        }
+        for (int branch = 1; branch < 3; branch++) {
+            for (int n = 0; n < 3; n++) {
+                x.add(branch, READ, 0, n);
+            }
+            x.add(branch, ADD, 0, 7);
+        }
+        x.flaws(1);
+        Check.is("11 READs; 7 to 0; 7 to 3 to 1, twice", x.shrink(1L, 50), 16);
+        Check.same("commands", commandsOf(x), "0 0 0 0,1 4 0 1,2 4 0 1,");
+    }
+
+    /**
+     * By this seed the one run fails, and no longer does when a branch has a command less, so that
+     * nothing can go but the numbers: those of READs to 0, those of ADDs by halves to 1.
+     */
+    private static void shrinkLowersTheNumbersOf14Commands() {
+        HistoryJudge x = new HistoryJudge();
+        x.add(0, OPEN, 0, 7);
+        for (int n = 1; n < 6; n++) {
+            x.add(0, READ, 0, 8 + n - 1);
+        }
+        x.add(1, READ, 0, 8 + 5);
+        x.add(1, READ, 0, 7);
+        x.add(1, READ, 0, 7);
+        x.add(1, ADD, 0, 7);
+        x.add(2, READ, 0, 7);
+        x.add(2, READ, 0, 7);
+        x.add(2, READ, 0, 7);
+        x.add(2, ADD, 0, 7);
+        x.flaws(1);
+        Check.is("OPEN, 5 READs, 2 ADDs twice", x.shrink(2L, 1), 10);
+        Check.same("commands", commandsOf(x), "0 0 0 0,0 2 0 8,0 2 0 9,0 2 0 10,0 2 0 11,0 2 0 12,"
+                + "1 2 0 13,1 2 0 0,1 2 0 0,1 4 0 1,2 2 0 0,2 2 0 0,2 2 0 0,2 4 0 1,");
+        Check.is("11 rounds of 8 removals, 21 numbers, first and last", x.count(1), 1 + 11 * 8 + 21 + 1);
+        Check.is("unexplained", x.count(2), 1 + 10 + 1);
+    }
+
+    /** The longest shrinking that a search over many seeds has found. */
+    private static void shrinkThatTakes20() {
+        HistoryJudge x = new HistoryJudge();
+        Reference y = new Reference();
+        x.flaws(15);
+        y.flaws(15);
+        Check.is("make", x.make(13928L, 6, 4, 4), y.make(13928L, 6, 4, 4));
+        Check.is("taken", x.shrink(0L, 50), 20);
+        Check.is("taken, by the plainest form", y.shrink(0L, 50), 20);
+        Check.same("commands", commandsOf(x), "0 0 1 0,0 0 2 1,1 4 1 1,2 6 1 0,");
+        Check.is("runs", x.count(1), y.count(1));
+        Check.is("unexplained", x.count(2), y.count(2));
+    }
+
+    /** Seeds of which the lowest 32 bits alone would draw other schedules. */
+    private static void shrinkByTheWholeSeed() {
+        for (long seed : new long[] {1L << 32, 5L << 40, -(1L << 50), Long.MAX_VALUE, Long.MIN_VALUE}) {
+            HistoryJudge y = flawedAdds(0, 1, 1);
+            int first = runDrawn(y, seed, 50);
+            Check.is("it fails by seed " + seed, first >= 0, true);
+            HistoryJudge x = flawedAdds(0, 2, 1);
+            Check.is("taken by seed " + seed, x.shrink(seed, 50), 1);
+            Check.is("runs by seed " + seed, x.count(1), 2 * (first + 1) + 11 * 50 + 1);
+            Check.same("the latest run by seed " + seed, latestRunOf(x), latestRunOf(y));
+        }
+    }
+
+    /** SWAPs of 0 fail while the cell holds something: the number that it is made to hold goes down to 1. */
+    private static void shrinkHalvesEachNumberOfThePrefix() {
+        for (int at = 0; at < 6; at++) {
+            HistoryJudge x = new HistoryJudge();
+            x.add(0, OPEN, 0, at == 0 ? 7 : 0);
+            for (int n = 1; n < at; n++) {
+                x.add(0, READ, 0, 8 + n - 1);
+            }
+            if (at > 0) {
+                x.add(0, WRITE, 0, 7);
+            }
+            x.add(1, SWAP, 0, at > 1 ? 8 + at - 1 : 0);
+            x.add(2, SWAP, 0, 0);
+            x.flaws(2);
+            int commands = x.count(0);
+            Check.is("7 to 3 to 1 of command " + at, x.shrink(1L, 50), 2);
+            Check.is("commands", x.count(0), commands);
+            Check.is("argument", x.command(at, 3), 1);
+        }
+    }
+
+    /** The READ that has a number does not use it, and is kept, for a SWAP stands for its answer. */
+    private static void shrinkTo0EachNumberOfThePrefix() {
+        for (int at = 2; at < 6; at++) {
+            HistoryJudge x = new HistoryJudge();
+            x.add(0, OPEN, 0, 1);
+            x.add(0, OPEN, 1, 8 + 0);
+            for (int n = 2; n < at; n++) {
+                x.add(0, READ, 1, 8 + n - 1);
+            }
+            x.add(0, READ, 1, 7);
+            x.add(1, SWAP, 0, 8 + at - 1);
+            x.add(2, SWAP, 0, 8 + at);
+            x.flaws(2);
+            Check.is("7 to 0 of command " + at, x.shrink(1L, 50), 1);
+            commandIs(x, at, 0, READ, 1, 0);
+            Check.is("commands", x.count(0), at + 3);
+        }
+    }
+
+    /** A full prefix, then READs and an ADD in each branch; nothing can leave the prefix. */
+    private static HistoryJudge readsAndAnAdd(int readsOfOne, int readsOfTwo) {
+        HistoryJudge x = new HistoryJudge();
+        x.add(0, OPEN, 0, 1);
+        for (int n = 1; n < 6; n++) {
+            x.add(0, READ, 0, 8 + n - 1);
+        }
+        for (int n = 0; n < readsOfOne; n++) {
+            x.add(1, READ, 0, 7);
+        }
+        x.add(1, ADD, 0, readsOfTwo == 0 ? 7 : 8 + 5);
+        for (int n = 0; n < readsOfTwo; n++) {
+            x.add(2, READ, 0, 7);
+        }
+        x.add(2, ADD, 0, readsOfTwo == 0 ? 8 + 5 : 7);
+        x.flaws(1);
+        return x;
+    }
+
+    /** One by which the one run fails, and no longer does when a branch has a command less. */
+    private static long seedThatKeepsAll(int readsOfOne, int readsOfTwo) {
+        for (long seed = 0; seed < 2000; seed++) {
+            HistoryJudge x = readsAndAnAdd(readsOfOne, readsOfTwo);
+            int commands = x.count(0);
+            if (x.fails(seed, 1) == 0 && x.shrink(seed, 1) > 0 && x.count(0) == commands) {
+                return seed;
+            }
+        }
+        Check.tell("no seed for " + readsOfOne + " and " + readsOfTwo);
+        return 0;
+    }
+
+    private static void shrinkLowersEachNumberOfTheBranches() {
+        for (int one = 0; one < 4; one++) {
+            for (int two = 0; two < 4; two++) {
+                HistoryJudge x = readsAndAnAdd(one, two);
+                int commands = x.count(0);
+                x.shrink(seedThatKeepsAll(one, two), 1);
+                Check.is("commands", x.count(0), commands);
+                for (int n = 0; n < one; n++) {
+                    commandIs(x, 6 + n, 1, READ, 0, 0);
+                }
+                commandIs(x, 6 + one, 1, ADD, 0, two == 0 ? 1 : 8 + 5);
+                for (int n = 0; n < two; n++) {
+                    commandIs(x, 7 + one + n, 2, READ, 0, 0);
+                }
+                commandIs(x, 7 + one + two, 2, ADD, 0, two == 0 ? 8 + 5 : 1);
+            }
+        }
+    }
 }
